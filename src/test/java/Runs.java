@@ -6,7 +6,7 @@ import java.lang.reflect.Method;
  */
 final class Runs {
     private final String test;
-    private int rows = 0;
+    private int checks = 0;
     private int wrong = 0;
 
     Runs(String test) {
@@ -23,12 +23,12 @@ final class Runs {
     private void check(String where, PatchHall hall, String row) {
         String[] callAndDue = row.split("=");
         String[] due = callAndDue[1].split("!");
-        rows++;
         equal(where + ": " + row.trim(), call(hall, callAndDue[0].trim().split(" +")), Long.parseLong(due[0].trim()));
         equal(where + ": WHY behind " + row.trim(), hall.why(), due.length > 1 ? Long.parseLong(due[1].trim()) : 0L);
     }
 
     void equal(String what, long got, long want) {
+        checks++;
         if (got != want) {
             wrong++;
             System.out.println(what + " answered " + got + ", due is " + want);
@@ -70,7 +70,7 @@ final class Runs {
     }
 
     void end() {
-        System.out.println(test + ": " + rows + " rows, " + wrong + " answers not as due");
+        System.out.println(test + ": " + checks + " checks, " + wrong + " answers not as due");
         if (wrong != 0) {
             System.exit(1);
         }
