@@ -7,6 +7,7 @@
  */
 public final class PatchHall {
 
+    // The kinds, by the numbers that the document tells them by.
     private static final int PLAIN = 0;
     private static final int SHAPER = 1;
     private static final int CLIP = 2;
@@ -33,7 +34,7 @@ public final class PatchHall {
     private static final int BOARD_OF_PLAIN = 23;
     private static final int BOARD_OF_CLIP = 24;
 
-    /** Sets of kinds, a bit a kind: a thing belongs to a set if it is UNDER one of its kinds. */
+    // Sets of kinds, a bit a kind: a thing belongs to a set if it is UNDER one of its kinds.
     private static final int ALL_KINDS = -1;
     private static final int PARTS = 1 << PLAIN;
     private static final int NUMBER_ROWS = 1 << NUMBERS | 1 << BYTES | 1 << LONGS;
@@ -43,7 +44,7 @@ public final class PatchHall {
     private static final int PLAYED = PARTS | 1 << ROW_OF_PLAIN | 1 << BOARD_OF_PLAIN;
     private static final int TICKING = 1 << TICKER | 1 << ROW_OF_TICKER;
 
-    /** What a thing is told by; the numbers are those by which tell() asks. */
+    // What can be told of a thing, by the numbers with which tell() asks for it.
     private static final int KIND = 0;
     private static final int NUMBER = 1;
     private static final int KNOB = 2;
@@ -55,6 +56,7 @@ public final class PatchHall {
     private static final int TOP = 8;
     private static final int LEVEL = 9;
 
+    // WHY.
     private static final int DONE = 0;
     private static final int BAD_NUMBER = 1;
     private static final int NOTHING_THERE = 2;
@@ -64,6 +66,7 @@ public final class PatchHall {
     private static final int NO_ROOM = 6;
     private static final int NOT_NOW = 7;
 
+    // The calls that can become lines of the sheet.
     private static final int MAKE = 0;
     private static final int LAY = 1;
     private static final int PLUG = 2;
@@ -254,22 +257,14 @@ public final class PatchHall {
     }
 
     public long read(int s, int i) {
-        if (holdsNone(s, NUMBER_ROWS)) {
-            return 0L;
-        }
-        int row = stock.onShelf(s);
-        return stock.hasPlace(row, i) ? stock.atPlace(row, i) : refuse(NO_PLACE);
+        return hasNoPlace(s, NUMBER_ROWS, i) ? 0L : stock.atPlace(stock.onShelf(s), i);
     }
 
     public int at(int s, int i, int j) {
-        if (holdsNone(s, ROWS_OF_ROWS)) {
+        if (hasNoPlace(s, ROWS_OF_ROWS, i)) {
             return 0;
         }
-        int outer = stock.onShelf(s);
-        if (!stock.hasPlace(outer, i)) {
-            return refuse(NO_PLACE);
-        }
-        int row = (int) stock.atPlace(outer, i);
+        int row = (int) stock.atPlace(stock.onShelf(s), i);
         if (row == NOTHING) {
             return refuse(NOTHING_THERE);
         }
@@ -316,6 +311,25 @@ public final class PatchHall {
             reason = NOTHING_THERE;
         } else if (!stock.isIn(stock.onShelf(s), kinds)) {
             reason = OTHER_KIND;
+        }
+        return reason != DONE;
+    }
+
+    /** The same for a row, with the reason that stands next: a place that it has not. */
+    private boolean hasNoPlace(int s, int kinds, int i) {
+        if (!holdsNone(s, kinds) && !stock.hasPlace(stock.onShelf(s), i)) {
+            reason = NO_PLACE;
+        }
+        return reason != DONE;
+    }
+
+    /** The first two reasons of the calls that want a thing on each of two shelves. */
+    private boolean isEitherEmpty(int s, int t) {
+        reason = DONE;
+        if (!isShelf(s) || !isShelf(t)) {
+            reason = BAD_NUMBER;
+        } else if (stock.onShelf(s) == NOTHING || stock.onShelf(t) == NOTHING) {
+            reason = NOTHING_THERE;
         }
         return reason != DONE;
     }
@@ -395,13 +409,10 @@ public final class PatchHall {
         if (!isShelf(t)) {
             return refuse(BAD_NUMBER);
         }
-        if (holdsNone(s, ROWS_OF_THINGS)) {
+        if (hasNoPlace(s, ROWS_OF_THINGS, i)) {
             return 0;
         }
         int row = stock.onShelf(s);
-        if (!stock.hasPlace(row, i)) {
-            return refuse(NO_PLACE);
-        }
         int thing = stock.onShelf(t);
         if (!stock.fits(thing, row)) {
             return refuse(NO_FIT);
@@ -415,26 +426,18 @@ public final class PatchHall {
         if (!isShelf(t)) {
             return refuse(BAD_NUMBER);
         }
-        if (holdsNone(s, ROWS_OF_THINGS)) {
+        if (hasNoPlace(s, ROWS_OF_THINGS, i)) {
             return 0;
         }
-        int row = stock.onShelf(s);
-        if (!stock.hasPlace(row, i)) {
-            return refuse(NO_PLACE);
-        }
-        return putOnShelf(t, (int) stock.atPlace(row, i));
+        return putOnShelf(t, (int) stock.atPlace(stock.onShelf(s), i));
     }
 
     private int copyPlaces(int s, int i, int t, int j, int n) {
-        reason = DONE;
-        if (!isShelf(s) || !isShelf(t)) {
-            return refuse(BAD_NUMBER);
+        if (isEitherEmpty(s, t)) {
+            return 0;
         }
         int from = stock.onShelf(s);
         int to = stock.onShelf(t);
-        if (from == NOTHING || to == NOTHING) {
-            return refuse(NOTHING_THERE);
-        }
         if (!Kinds.isCopied(stock.trait(from, KIND), stock.trait(to, KIND))) {
             return refuse(OTHER_KIND);
         }
@@ -450,13 +453,10 @@ public final class PatchHall {
     }
 
     private int writeNumber(int s, int i, long v) {
-        if (holdsNone(s, NUMBER_ROWS)) {
+        if (hasNoPlace(s, NUMBER_ROWS, i)) {
             return 0;
         }
         int row = stock.onShelf(s);
-        if (!stock.hasPlace(row, i)) {
-            return refuse(NO_PLACE);
-        }
         stock.setPlace(row, i, Kinds.asHeldIn(stock.trait(row, KIND), v));
         return 1;
     }
@@ -491,15 +491,11 @@ public final class PatchHall {
     }
 
     private int runOver(int s, int t) {
-        reason = DONE;
-        if (!isShelf(s) || !isShelf(t)) {
-            return refuse(BAD_NUMBER);
+        if (isEitherEmpty(s, t)) {
+            return 0;
         }
         int played = stock.onShelf(s);
         int row = stock.onShelf(t);
-        if (played == NOTHING || row == NOTHING) {
-            return refuse(NOTHING_THERE);
-        }
         if (!stock.isIn(played, PLAYED) || !stock.isIn(row, 1 << NUMBERS)) {
             return refuse(OTHER_KIND);
         }
@@ -654,7 +650,7 @@ public final class PatchHall {
     /** The shelves and things as they stand, and the ACTS that can be taken back. */
     private static final class Stock {
 
-        /** Behind what tell() asks for, a thing has the count of its places and the places. */
+        // Behind what tell() asks for, a thing has the count of its places and the places.
         private static final int PLACES = 10;
         private static final int FIRST_PLACE = 11;
         private static final int THING_CELLS = FIRST_PLACE + MOST_PLACES;

@@ -9,9 +9,9 @@ public final class TwinTest {
     private static final int CALLS = 400;
     private static final long[] EDGES = {Integer.MIN_VALUE, Integer.MAX_VALUE, -1, 0, 1, 16, 12, 13, 25, -1000, 1000,
         1001, -1001, Long.MIN_VALUE, Long.MAX_VALUE, 1L << 32, 127, 128, 255, -129};
-    /** Acts that build come twice: a hall is soon full of things that can be plugged. */
+    /** Acts that build stand here more often, so that a hall stays full of things that can be played. */
     private static final String[] NAMES = {"make", "make", "make", "plug", "plug", "plug", "plug", "lay", "pull",
-        "copy", "copy", "copy", "write", "write", "knob", "play", "play", "run", "run", "ticks", "rest", "when",
+        "copy", "copy", "copy", "write", "write", "knob", "play", "play", "run", "run", "ticks", "rest", "when", "when",
         "begin", "end", "end", "carry", "carry", "undo", "acts", "ask", "take", "take", "size", "read", "at", "tell",
         "tell"};
 
@@ -42,10 +42,13 @@ public final class TwinTest {
     }
 
     private void goThrough() {
-        boolean dearer = dice.nextInt(4) == 0;
-        for (int n = 0; n < CALLS && same; n++) {
-            String name = dearer && n < 60 ? "make" : NAMES[dice.nextInt(NAMES.length)];
-            if (name.equals("begin") && dice.nextInt(3) > 0) {
+        int made = dice.nextInt(4) == 0 ? 60 : dice.nextInt(24);
+        int plugged = dice.nextInt(40);
+        for (int n = 0; n < CALLS; n++) {
+            String name = NAMES[dice.nextInt(NAMES.length)];
+            if (n < made) {
+                name = "make";
+            } else if (n < made + plugged) {
                 name = "plug";
             }
             both(name, arguments(name));
@@ -102,8 +105,8 @@ public final class TwinTest {
 
     private long[] likely(String name) {
         switch (name) {
-            case "make": return of(shelf(), kind(), dice.nextInt(3) == 0 ? dice.nextInt(13) : 2 + dice.nextInt(4));
-            case "lay": return of(shelf(), shelf());
+            case "make": return of(shelf(), dice.nextInt(25), dice.nextInt(3) == 0 ? dice.nextInt(13) : 2 + dice.nextInt(4));
+            case "lay": return of(dice.nextInt(8) == 0 ? shelf() : on(Object.class), shelf());
             case "plug": return plug();
             case "pull": return of(on(Object[].class), dice.nextInt(4), shelf());
             case "copy": return copy();
@@ -132,11 +135,6 @@ public final class TwinTest {
 
     private long shelf() {
         return dice.nextInt(16);
-    }
-
-    private long kind() {
-        int k = dice.nextInt(40);
-        return k < 25 ? k : 13 + k % 12;
     }
 
     private long number() {
