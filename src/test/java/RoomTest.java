@@ -31,7 +31,7 @@ public final class RoomTest {
             for (int a = 1; a < words.length; a++) {
                 words[a] = Integer.toString(dice.nextInt(most) * (dice.nextInt(9) == 0 ? -1 : 1));
             }
-            Runs.call(hall, words);
+            new Call(String.join(" ", words)).on(hall);
         }
     }
 

@@ -1,10 +1,22 @@
-import java.lang.reflect.Method;
+import java.util.ArrayList;
+import java.util.Arrays;
+import java.util.List;
 
 /**
  * Runs of calls written as rows: "plug 0 1 2 = 0" is a call with its answer, and WHY has to be 0
- * behind it; "plug 0 1 2 = 0 ! 5" wants WHY 5. Every run is on a new object.
+ * behind it; "plug 0 1 2 = 0 ! 5" wants WHY 5. Every run is on a new object. Behind a refused call,
+ * and behind a question, all has to look as it did ahead of it.
  */
 final class Runs {
+    /** Numbers next to 0 .. 15, to 0 .. 24 and to the places of a row of 12, and as far from them as can be. */
+    static final long[] NO_SHELF = {-1, 16, Integer.MIN_VALUE, Integer.MAX_VALUE};
+    static final long[] NO_KIND = {-1, 25, Integer.MIN_VALUE, Integer.MAX_VALUE, 32, 64};
+    static final long[] NO_PLACE = {-1, 12, Integer.MIN_VALUE, Integer.MAX_VALUE};
+    static final long[] END_SHELF = {0, 15};
+    static final long[] END_PLACE = {0, 11};
+
+    private static final int WORDS_SHOWN = 200;
+
     private final String test;
     private int checks = 0;
     private int wrong = 0;
@@ -13,18 +25,72 @@ final class Runs {
         this.test = test;
     }
 
-    void run(String title, String... calls) {
+    void run(String title, String... rows) {
         PatchHall hall = new PatchHall();
-        for (int n = 0; n < calls.length; n++) {
-            check(title + ", row " + (n + 1), hall, calls[n]);
+        List<Call> calls = new ArrayList<>();
+        String look = null;
+        for (int n = 0; n < rows.length; n++) {
+            String where = title + ", row " + (n + 1) + ": " + rows[n].trim();
+            String[] callAndDue = rows[n].split("=");
+            String[] due = callAndDue[1].split("!");
+            Call call = new Call(callAndDue[0]);
+            long why = due.length > 1 ? Long.parseLong(due[1].trim()) : 0L;
+            equal(where, call.on(hall), Long.parseLong(due[0].trim()));
+            equal(where + ": WHY", hall.why(), why);
+            if (call.isQuestion() || isRefused(call, why)) {
+                String before = look == null ? Look.behind(calls) : look;
+                calls.add(call);
+                look = Look.behind(calls);
+                sameLook(where, before, look);
+            } else {
+                calls.add(call);
+                look = null;
+            }
         }
     }
 
-    private void check(String where, PatchHall hall, String row) {
-        String[] callAndDue = row.split("=");
-        String[] due = callAndDue[1].split("!");
-        equal(where + ": " + row.trim(), call(hall, callAndDue[0].trim().split(" +")), Long.parseLong(due[0].trim()));
-        equal(where + ": WHY behind " + row.trim(), hall.why(), due.length > 1 ? Long.parseLong(due[1].trim()) : 0L);
+    /** The same rows for each value, which stands where they have a #. */
+    void each(String title, long[] values, String... rows) {
+        for (long value : values) {
+            String[] filled = new String[rows.length];
+            for (int n = 0; n < rows.length; n++) {
+                filled[n] = rows[n].replace("#", Long.toString(value));
+            }
+            run(title + " (" + value + ")", filled);
+        }
+    }
+
+    static long[] of(long... values) {
+        return values;
+    }
+
+    static String[] with(String[] rows, String... last) {
+        return with(Arrays.asList(rows), last);
+    }
+
+    static String[] with(List<String> rows, String... last) {
+        List<String> all = new ArrayList<>(rows);
+        all.addAll(Arrays.asList(last));
+        return all.toArray(new String[0]);
+    }
+
+    private static boolean isRefused(Call call, long why) {
+        return why != 0 && !(why == 5 && call.name().equals("copy"));
+    }
+
+    private void sameLook(String where, String before, String after) {
+        checks++;
+        if (!before.equals(after)) {
+            wrong++;
+            int at = 0;
+            while (at < before.length() && at < after.length() && before.charAt(at) == after.charAt(at)) {
+                at++;
+            }
+            int from = before.lastIndexOf('\n', at) + 1;
+            System.out.println(where + " changed more than WHY. Before: "
+                + before.substring(from, Math.min(from + WORDS_SHOWN, before.length())) + " After: "
+                + after.substring(from, Math.min(from + WORDS_SHOWN, after.length())));
+        }
     }
 
     void equal(String what, long got, long want) {
@@ -37,36 +103,6 @@ final class Runs {
 
     void isTrue(String what, boolean holds) {
         equal(what, holds ? 1 : 0, 1);
-    }
-
-    static long call(PatchHall hall, String[] words) {
-        Method method = methodNamed(words[0]);
-        Class<?>[] types = method.getParameterTypes();
-        if (types.length != words.length - 1) {
-            throw new IllegalArgumentException("not as many arguments as " + words[0] + " takes");
-        }
-        Object[] arguments = new Object[types.length];
-        for (int a = 0; a < types.length; a++) {
-            if (types[a] == long.class) {
-                arguments[a] = Long.parseLong(words[a + 1]);
-            } else {
-                arguments[a] = Integer.parseInt(words[a + 1]);
-            }
-        }
-        try {
-            return ((Number) method.invoke(hall, arguments)).longValue();
-        } catch (ReflectiveOperationException e) {
-            throw new IllegalStateException(String.join(" ", words), e);
-        }
-    }
-
-    private static Method methodNamed(String name) {
-        for (Method method : PatchHall.class.getDeclaredMethods()) {
-            if (method.getName().equals(name)) {
-                return method;
-            }
-        }
-        throw new IllegalArgumentException("no method " + name);
     }
 
     void end() {

@@ -84,7 +84,7 @@ public final class TwinTest {
         }
         long want = twin.call(name, given);
         long wantWhy = twin.call("why");
-        long got = Runs.call(hall, words);
+        long got = new Call(String.join(" ", words)).on(hall);
         long gotWhy = hall.why();
         calls.add(String.join(" ", words) + " = " + got + " ! " + gotWhy);
         if (got != want || gotWhy != wantWhy) {

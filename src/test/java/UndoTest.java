@@ -88,7 +88,7 @@ public final class UndoTest {
     }
 
     private static void doAct(PatchHall hall, String act) {
-        Runs.call(hall, act.split("=")[0].trim().split(" +"));
+        new Call(act.split("=")[0]).on(hall);
     }
 
     /** All that questions can tell of what lies on the shelves. */
