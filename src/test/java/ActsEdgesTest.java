@@ -206,6 +206,9 @@ public final class ActsEdgesTest {
             "make 1 18 2 = 1", "make 2 1 0 = 2", "make 3 0 0 = 3", "plug 0 0 2 = 0", "plug 0 1 3 = 0",
             "copy 0 0 1 1 1 = 1", "take 1 18 1 = 2", "copy 0 1 1 0 0 = 0", "copy 0 1 1 0 1 = 0 ! 5",
             "take 1 18 0 = 0 ! 2");
+        runs.run("promise 6: what does not fit ahead of place i is not looked at", "make 0 17 2 = 0", "make 1 18 2 = 1",
+            "make 2 1 0 = 2", "make 3 0 0 = 3", "plug 0 0 3 = 0", "plug 0 1 2 = 0", "copy 0 1 1 0 1 = 1",
+            "take 1 18 0 = 2", "copy 0 1 1 1 0 = 0");
         runs.run("promise 6: NOTHING fits always", "make 0 16 2 = 0", "make 1 22 2 = 1", "make 2 10 0 = 2",
             "plug 1 0 2 = 0", "plug 1 1 2 = 0", "copy 0 0 1 0 1 = 1", "take 1 22 0 = 0 ! 2", "take 1 22 1 = 2");
         runs.run("promise 6: things fit by their own kind, not their row's", "make 0 17 1 = 0", "make 1 21 1 = 1",

@@ -64,6 +64,7 @@ public final class SheetEdgesTest {
             "carry # = 0 ! 1", "tell 0 6 = 0", "acts = 1"));
         runs.each("promise 16: 1 counts ahead of 7", Runs.of(0, 5), made[0], made[1], "carry # = 0 ! 1",
             "carry 1 = 0 ! 7", "carry 4 = 0 ! 7", "play 0 0 = 1", "end = 1", "carry 1 = 1");
+        runs.run("promise 16: an empty sheet, behind a refused call", "undo = 0 ! 7", "carry 1 = 0", "acts = 1");
         runs.run("promise 16: an empty sheet", "carry 1 = 0", "carry 4 = 0", "acts = 2", "undo = 1", "undo = 0");
     }
 

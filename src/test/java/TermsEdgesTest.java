@@ -282,6 +282,8 @@ public final class TermsEdgesTest {
             "knob 0 -1 = 0", "tell 0 7 = 6", "knob 0 -1000 = -1", "tell 0 7 = 1005", "take 0 1 0 = 1005");
         runs.run("LOAD of RIPPLE: and BENDS", "make 0 4 0 = 0", "tell 0 7 = 13", "play 0 9 = 8", "tell 0 7 = 14",
             "play 0 9 = 8", "tell 0 7 = 15", "rest 0 = 1", "tell 0 7 = 13");
+        runs.each("LOAD of COUNTER and CLOCK: and COUNT", Runs.of(9, 10), "make 0 # 0 = 0", "tell 0 7 = 2",
+            "play 0 0 = 1", "tell 0 7 = 3", "play 0 0 = 2", "tell 0 7 = 4");
         runs.run("LOAD of CLOCK at REST", "make 0 10 0 = 0", "rest 0 = 1", "tell 0 7 = 102", "ticks 0 1 = 101",
             "tell 0 7 = 103");
         runs.each("LOAD of what is no PART", Runs.of(11, 13, 16, 17, 23), "make 0 # 3 = 0", "tell 0 7 = 0");
@@ -290,6 +292,10 @@ public final class TermsEdgesTest {
     private static void rests(Runs runs) {
         runs.run("REST of ECHO and HALL halves KNOB each time", "make 0 8 0 = 0", "rest 0 = 1", "tell 0 2 = 4",
             "rest 0 = 1", "rest 0 = 1", "tell 0 2 = 1", "rest 0 = 1", "tell 0 2 = 0", "rest 0 = 1", "tell 0 2 = 0");
+        runs.each("REST of ECHO and HALL: STORE's, HELD becomes 0", Runs.of(7, 8), "make 0 # 0 = 0", "play 0 7 = 7",
+            "tell 0 5 = 7", "rest 0 = 1", "tell 0 5 = 0", "tell 0 3 = 0", "play 0 1 = 1");
+        runs.each("REST of STORE and LAG, whose HELD is 0", Runs.of(5, 6), "make 0 # 0 = 0", "play 0 7 = 7",
+            "rest 0 = 1", "tell 0 5 = 0", "tell 0 3 = 0");
         runs.each("REST leaves the KNOB of all others", Runs.of(0, 1, 2, 3, 4, 5, 6, 9, 10), "make 0 # 0 = 0",
             "rest 0 = 1", "tell 0 2 = 8");
         runs.run("REST of CLOCK that ran beyond 100", "make 0 10 0 = 0", "rest 0 = 1", "ticks 0 8 = 920",
