@@ -146,32 +146,29 @@ public final class TermsEdgesTest {
     }
 
     private static void places(Runs runs) {
-        int[] sizes = {0, 1, 2, 11, 12};
-        for (int n : sizes) {
-            String size = "size 0 = " + n;
+        for (int n : new int[] {0, 1, 2, 11, 12}) {
             for (long kind : NUMBER_ROWS) {
-                List<String> rows = new ArrayList<>(List.of("make 0 " + kind + " " + n + " = 0", size,
-                    "write 0 " + n + " 1 = 0 ! 4", "read 0 " + n + " = 0 ! 4", "take 0 " + kind + " " + n + " = 0 ! 4",
-                    "write 0 -1 1 = 0 ! 4", "read 0 -1 = 0 ! 4", "take 0 " + kind + " -1 = 0 ! 4"));
-                if (n > 0) {
-                    rows.addAll(List.of("write 0 " + (n - 1) + " 5 = 1", "read 0 " + (n - 1) + " = 5",
-                        "take 0 " + kind + " " + (n - 1) + " = 5"));
-                }
-                runs.run("as many places as it was made with: " + kind + " of " + n, Runs.with(rows, size));
+                placesOf(runs, kind, n, "write 0 # 5 = 1", "read 0 # = 5", "take 0 " + kind + " # = 5");
             }
             for (long kind : ROWS_OF_THINGS) {
-                List<String> rows = new ArrayList<>(List.of("make 0 " + kind + " " + n + " = 0", size,
-                    "plug 0 " + n + " 9 = 0 ! 4", "pull 0 " + n + " 8 = 0 ! 4", "take 0 " + kind + " " + n + " = 0 ! 4",
-                    "plug 0 -1 9 = 0 ! 4", "pull 0 -1 8 = 0 ! 4", "take 0 " + kind + " -1 = 0 ! 4"));
-                if (n > 0) {
-                    rows.addAll(List.of("plug 0 " + (n - 1) + " 9 = 0", "pull 0 " + (n - 1) + " 8 = 0",
-                        "take 0 " + kind + " " + (n - 1) + " = 0 ! 2"));
-                }
-                runs.run("as many places as it was made with: " + kind + " of " + n, Runs.with(rows, size));
+                placesOf(runs, kind, n, "plug 0 # 9 = 0", "pull 0 # 8 = 0", "take 0 " + kind + " # = 0 ! 2");
             }
         }
         runs.each("a row has 0 to 12 places", Runs.of(13, 16, 17, 21, 24), "make 0 # 12 = 0", "make 1 # 0 = 1",
             "make 2 # 13 = 0 ! 1", "make 3 # -1 = 0 ! 1", "size 0 = 12", "size 1 = 0");
+    }
+
+    private static void placesOf(Runs runs, long kind, int n, String... atPlace) {
+        String title = "as many places as it was made with: " + kind + " of " + n;
+        String[] made = {"make 0 " + kind + " " + n + " = 0", "size 0 = " + n};
+        String[] refused = new String[atPlace.length];
+        for (int r = 0; r < atPlace.length; r++) {
+            refused[r] = atPlace[r].replaceAll("=.*", "= 0 ! 4");
+        }
+        runs.each(title, Runs.of(-1, n, n + 1), Runs.with(made, refused));
+        if (n > 0) {
+            runs.each(title, Runs.of(0, n - 1), Runs.with(Runs.with(made, atPlace), "size 0 = " + n));
+        }
     }
 
     private static void placesAtFirst(Runs runs) {
