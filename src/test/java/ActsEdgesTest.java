@@ -200,7 +200,8 @@ public final class ActsEdgesTest {
             for (int i = 0; i < 3; i++) {
                 all = Runs.with(all, "take 1 19 " + i + " = " + (i < misfit ? 2 : 4));
             }
-            runs.run("promise 6: the first that does not fit is at " + misfit, Runs.with(all, "acts = 13", "undo = 12"));
+            runs.run("promise 6: the first that does not fit is at " + misfit,
+                Runs.with(all, "acts = 13", "undo = 12"));
         }
         runs.run("promise 6: what does not fit behind the n places is not looked at", "make 0 17 2 = 0",
             "make 1 18 2 = 1", "make 2 1 0 = 2", "make 3 0 0 = 3", "plug 0 0 2 = 0", "plug 0 1 3 = 0",
