@@ -63,12 +63,16 @@ public final class TermsEdgesTest {
         runs.run(title + "HELD times KNOB", make, "play 0 268435456 = 268435456", "play 0 0 = -134217728");
         runs.run(title + "HELD times KNOB, lowest", make, "play 0 -268435456 = -268435456", "play 0 0 = -134217728");
         runs.run(title + "HELD times KNOB, below", make, "play 0 -268435457 = -268435457", "play 0 0 = 134217727");
+        // No TICKS bring LEVEL nearer to the edge than this run does from below, and the next one from above.
         runs.run(title + "the sum of TICKS, and 3 times LEVEL in the last row", "make 0 11 0 = 0", "ticks 0 3 = 6",
             "ticks 0 8 = 51640", "ticks 0 8 = 338901880", "ticks 0 2 = -1583338851", "tell 0 9 = 2033721334",
             "ticks 0 1 = 1806196706", "tell 0 9 = 1806196706");
-        runs.run(title + "LEVEL becomes one below 0", "make 0 11 0 = 0", "ticks 0 4 = 24", "ticks 0 1 = 54",
-            "ticks 0 1 = 162", "ticks 0 1 = 486", "ticks 0 1 = 1458", "ticks 0 1 = 4374", "ticks 0 4 = 524904",
-            "ticks 0 8 = -808534776", "tell 0 9 = -1970324628");
+        List<String> rows = new ArrayList<>(List.of("make 0 11 0 = 0", "ticks 0 4 = 24"));
+        for (int level = 54; level > 0 && level <= 774840978; level *= 3) {
+            rows.add("ticks 0 1 = " + level);
+        }
+        runs.run(title + "LEVEL becomes one below 0", Runs.with(rows, "tell 0 9 = 774840978", "ticks 0 1 = -1970444362",
+            "tell 0 9 = -1970444362"));
         runs.run(title + "the sum of a row's TICKS", "make 0 11 0 = 0", "ticks 0 3 = 6", "ticks 0 8 = 51640",
             "ticks 0 8 = 338901880", "make 1 21 2 = 1", "plug 1 0 0 = 0", "plug 1 1 0 = 0", "ticks 1 1 = -1583338852",
             "tell 0 9 = 2033721333");
