@@ -63,7 +63,7 @@ public final class TermsEdgesTest {
         runs.run(title + "HELD times KNOB", make, "play 0 268435456 = 268435456", "play 0 0 = -134217728");
         runs.run(title + "HELD times KNOB, lowest", make, "play 0 -268435456 = -268435456", "play 0 0 = -134217728");
         runs.run(title + "HELD times KNOB, below", make, "play 0 -268435457 = -268435457", "play 0 0 = 134217727");
-        // No TICKS bring LEVEL nearer to the edge than this run does from below, and the next one from above.
+        // Ahead of its first wrap no TICKS bring LEVEL nearer to the edge than this run, and over it than the next.
         runs.run(title + "the sum of TICKS, and 3 times LEVEL in the last row", "make 0 11 0 = 0", "ticks 0 3 = 6",
             "ticks 0 8 = 51640", "ticks 0 8 = 338901880", "ticks 0 2 = -1583338851", "tell 0 9 = 2033721334",
             "ticks 0 1 = 1806196706", "tell 0 9 = 1806196706");
