@@ -2,8 +2,8 @@ import java.lang.management.ManagementFactory;
 import java.util.Random;
 
 /**
- * No call throws, whatever it is given and however many there were; and the dearest run of 512
- * calls stays small, as nothing that it makes is ever cleared away.
+ * No call throws, whatever it is given and however many there were; and the dearest runs of 512
+ * calls stay small, as nothing that they make is ever cleared away.
  */
 public final class RoomTest {
     private static final String[] NAMES = {"make 3", "lay 2", "plug 3", "pull 3", "copy 5", "write 3", "knob 2", "play 2",
@@ -17,7 +17,7 @@ public final class RoomTest {
             wildRun(new Random(seed));
         }
         tooManyActs(runs);
-        dearestRun(runs);
+        dearestRuns(runs);
         runs.end();
     }
 
@@ -45,20 +45,39 @@ public final class RoomTest {
         runs.isTrue("what is kept has an end", hall.acts() <= 512);
     }
 
-    private static void dearestRun(Runs runs) {
+    private static void dearestRuns(Runs runs) {
         PatchHall warm = new PatchHall();
         warm.make(0, 0, 0);
+        smallRun(runs, "carries that change the most parts and numbers", false);
+        smallRun(runs, "carries that make the most things, each taken back", true);
+    }
+
+    private static void smallRun(Runs runs, String title, boolean areTakenBack) {
         com.sun.management.ThreadMXBean meter = (com.sun.management.ThreadMXBean) ManagementFactory.getThreadMXBean();
         long thread = Thread.currentThread().getId();
         long before = meter.getThreadAllocatedBytes(thread);
         PatchHall hall = new PatchHall();
-        int calls = fill(hall);
+        int calls = areTakenBack ? recordMakes(hall) : fill(hall);
         for (; calls < 512; calls++) {
-            hall.carry(4);
+            if (areTakenBack && hall.acts() > 0) {
+                hall.undo();
+            } else {
+                hall.carry(4);
+            }
         }
         long bytes = meter.getThreadAllocatedBytes(thread) - before;
-        runs.equal("the dearest carry is done", hall.why(), 0);
-        runs.isTrue("the dearest run makes " + bytes + " bytes", bytes < MOST_BYTES);
+        runs.equal(title + " are done", hall.why(), 0);
+        runs.isTrue(title + " make " + bytes + " bytes", bytes < MOST_BYTES);
+    }
+
+    /** Four times over these lines make as many things, with as many places, as there can be. */
+    private static int recordMakes(PatchHall hall) {
+        hall.begin();
+        for (int n = 0; n < 15; n++) {
+            hall.make(n, 23, 12);
+        }
+        hall.end();
+        return 17;
     }
 
     /** A board with as many different parts as there can be, and a sheet that runs numbers through it. */
@@ -78,12 +97,13 @@ public final class RoomTest {
         }
         for (int s = 3; s < 10; s++) {
             hall.make(s, 13, 12);
+            hall.write(s, 0, 1000 + s);
         }
         hall.begin();
         for (int n = 0; n < 16; n++) {
             hall.run(0, 3 + n % 7);
         }
         hall.end();
-        return calls + 26;
+        return calls + 33;
     }
 }
